@@ -102,6 +102,28 @@ public final class PromisesTest {
         C.due("241 are", x.feed(0, 0, 0, 0, 1), NONE);
         C.due("nothing more is fine", x.feed(0, 0, 0, 0, 0), 240);
         C.due("blanks ahead", x.fault(0), NONE);
+        feedNearTheEnd();
+    }
+
+    /** Each byte of each number counts: with two left, three are refused wherever they stand, two are not. */
+    private static void feedNearTheEnd() {
+        int full = 0x20202020;
+        int[] pairs = {0x01010000, 0x00010100, 0x00000101, 0x01000001, 0x01000100};
+        for (int place = 0; place < 5; place++) {
+            for (int pair : pairs) {
+                SafeBuckets x = new SafeBuckets();
+                for (int i = 0; i < 11; i++) {
+                    x.feed(full, full, full, full, full);
+                }
+                x.feed(full, full, full, full, 0x2020);
+                int[] w = new int[5];
+                w[place] = pair;
+                w[(place + 1) % 5] = 1;
+                C.due("three more", x.feed(w[0], w[1], w[2], w[3], w[4]), NONE);
+                w[(place + 1) % 5] = 0;
+                C.due("two more", x.feed(w[0], w[1], w[2], w[3], w[4]), 240);
+            }
+        }
     }
 
     private static void end() {
@@ -841,6 +863,12 @@ public final class PromisesTest {
         C.due("by degrees", x.join(0, 0, 1, 0, 2), 45 + 20 + 2);
         C.due("estimate", x.join(0, 0, 1, 0, 3), 12 + 1);
         C.due("with nothing in common", x.join(0, 0, 1, 1, 0), 0);
+        SafeBuckets wide = Check.desk("tv16");
+        for (int v = 0; v < 16; v++) {
+            wide.add(0, v, 15 - v, v + 1);
+        }
+        C.due("the other way round", wide.join(0, 0, 0, 1, 0), 816);
+        C.due("all sixteen degrees", wide.join(0, 0, 0, 1, 2), 1496);
         C.due("with itself", x.join(0, 0, 0, 0, 0), 51);
         C.due("no missing", x.join(0, 1, 1, 1, 0), 0);
         x.budget(2);
@@ -858,6 +886,8 @@ public final class PromisesTest {
 
     private static void chains() {
         SafeBuckets x = Check.desk("sb8;tv3;tv4;tv2;rb0n2;rb1n3;rt1a0b0n5;rt1a1b1n7;rt1a3b1n9;rt1a0n9;rt2a0n4;rt2a1n1");
+        C.due("what 2", x.chain(2), NONE);
+        C.due("what -1", x.chain(-1), NONE);
         C.due("truth", x.chain(0), 2 * 5 * 4 + 3 * 7 * 1);
         C.due("upper", x.chain(1), Math.min((2 * 14 + 3 * 7) * 4, (5 * 4 + 16) * 3));
         x.budget(3);
@@ -866,8 +896,6 @@ public final class PromisesTest {
         C.due("stopped", x.chain(0), NONE);
         C.due("status", x.status(4), 1);
         C.due("trace", x.trace(3), 12);
-        C.due("what 2", x.chain(2), NONE);
-        C.due("what -1", x.chain(-1), NONE);
         C.due("two tables", Check.desk("t;t").chain(0), NONE);
         C.due("two tables", Check.desk("t;t").chain(1), NONE);
         C.due("empty", Check.desk("t;t;t").chain(0), 0);
@@ -996,6 +1024,7 @@ public final class PromisesTest {
         C.due("no table", x.shares(3, 1), NONE);
         C.due("no table", x.shares(-1, 1), NONE);
         C.due("no rows at all", Check.desk("t").shares(0, 999), 0);
+        C.due("a single one", Check.desk("t;t;rt1").shares(1, 999), 999);
     }
 
     private static void most() {
