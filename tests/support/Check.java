@@ -1,17 +1,55 @@
+import java.io.IOException;
+import java.nio.file.Files;
+import java.nio.file.Path;
 import java.util.NoSuchElementException;
+import java.util.Set;
+import java.util.TreeSet;
 
 /** What the project's tests share: texts brought to the tape, answers compared, a last word. */
 final class Check {
     private int wrong = 0;
     private int seen = 0;
+    private final Set<String> sentences = new TreeSet<>();
+    private String document = null;
+    /** The sentence that answers are about now; empty if they are about none. */
+    private String sentence = "";
+    private int seenAhead = 0;
 
     void due(String call, long got, long want) {
         seen++;
         if (got != want) {
             wrong++;
             if (wrong <= 40) {
-                System.out.println(call + " answered " + got + ", due is " + want);
+                String where = sentence.isEmpty() ? "" : "[" + sentence + "] ";
+                System.out.println(where + call + " answered " + got + ", due is " + want);
             }
+        }
+    }
+
+    /** The answers from here on are about a sentence of the document, told word for word, each once. */
+    void about(String words) {
+        endSentence();
+        if (document == null) {
+            document = readDocument();
+        }
+        due("the document says: " + words, document.contains(words), true);
+        due("a test of its own: " + words, sentences.add(words), true);
+        sentence = words;
+        seenAhead = seen;
+    }
+
+    private void endSentence() {
+        if (!sentence.isEmpty()) {
+            due("has answers", seen > seenAhead, true);
+        }
+    }
+
+    /** Its lines are joined, as a sentence may go over several. */
+    private static String readDocument() {
+        try {
+            return Files.readString(Path.of("../shared/DOC.md")).replaceAll("\\s+", " ");
+        } catch (IOException e) {
+            throw new IllegalStateException("no ../shared/DOC.md: " + e);
         }
     }
 
@@ -34,10 +72,17 @@ final class Check {
     }
 
     void finish(String name) {
-        System.out.println(name + ": " + seen + " answers, " + wrong + " wrong");
+        endSentence();
+        String of = sentences.isEmpty() ? "" : " to " + sentences.size() + " sentences";
+        System.out.println(name + ": " + seen + " answers" + of + ", " + wrong + " wrong");
         if (wrong > 0) {
             System.exit(1);
         }
+    }
+
+    /** Numbers that are not from low to high: next to them, and as far away as there are. */
+    static int[] outside(int low, int high) {
+        return new int[] {Integer.MIN_VALUE, low - 2, low - 1, high + 1, high + 2, Integer.MAX_VALUE};
     }
 
     /** The five numbers of a feed, from a place of a text on; bytes of 0 behind its end. */
