@@ -114,6 +114,15 @@ final class Check {
         return x.text(sort);
     }
 
+    /** An object without a book. */
+    static SafeBuckets whereAlone(String where) {
+        SafeBuckets x = new SafeBuckets();
+        if (tell(x, where, 1) < 0) {
+            throw new IllegalStateException("the test's own where is wrong: " + where);
+        }
+        return x;
+    }
+
     static SafeBuckets desk(String book, String... wheres) {
         SafeBuckets x = new SafeBuckets();
         if (tell(x, book, 0) < 1) {
