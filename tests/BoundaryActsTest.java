@@ -12,6 +12,7 @@ public final class BoundaryActsTest {
         drifts();
         moves();
         undone();
+        undoneAsItWas();
         statusSorts();
         statusRules();
         logs();
@@ -195,6 +196,52 @@ public final class BoundaryActsTest {
             C.due("10 of 50 stay", again.rule(2), 10);
             C.due("none can be undone", again.count(4), 0);
             again.budget(999);
+        }
+    }
+
+    /** Acts of every sort, on the second and the third table; which one, whether it was done. */
+    private static boolean actOf(SafeBuckets x, int sort, int i) {
+        switch (sort) {
+            case 0: return x.add(1 + i % 2, i % 4 - 1, i % 3 - 1, i % 5 + 1) != NONE;
+            case 1: return x.drop(1, 1, 1, 1) != NONE;
+            case 2: return x.move(2, i % 2, i % 2, -1, (i + 1) % 3) != NONE;
+            case 3: return x.build(1 + i % 2, i / 2 % 2) != NONE;
+            default: return x.budget(i % 900 + 50) != NONE;
+        }
+    }
+
+    private static void undoneAsItWas() {
+        C.about("All these are ACTS");
+        String book = "sb2d6;tv2;tv3;tv3;ra0b0n3;rt1a1b1n40;rt1a1b1n40;rt2a0b0n40;rt2a1b1n40";
+        for (int sort = 0; sort < 5; sort++) {
+            SafeBuckets x = Check.desk(book);
+            x.add(1, 2, 2, 1);
+            x.add(2, 2, 2, 1);
+            x.add(1, 0, 1, 2);
+            Reading ahead = Reading.of(x);
+            C.due("sort " + sort, actOf(x, sort, 0), true);
+            C.due("in the log", x.log(0, 0), sort);
+            C.due("undone", x.undo(), 3);
+            Reading.of(x).sameAs(ahead, null, 0, C, "sort " + sort + " undone");
+        }
+        // Forty of a sort behind forty of another: what an act was made of is not mixed up.
+        for (int first = 0; first < 5; first++) {
+            for (int then = 0; then < 5; then++) {
+                SafeBuckets x = Check.desk(book);
+                Reading ahead = Reading.of(x);
+                for (int sort : new int[] {first, then}) {
+                    int done = 0;
+                    for (int i = 0; i < 40; i++) {
+                        done += actOf(x, sort, i) ? 1 : 0;
+                    }
+                    for (int left = done - 1; left >= 0; left--) {
+                        C.due("undone", x.undo(), left);
+                    }
+                }
+                C.due("no more", x.undo(), NONE);
+                int refused = x.status(2);
+                Reading.of(x).sameAs(ahead, "status 2", refused, C, "sorts " + first + ", " + then);
+            }
         }
     }
 

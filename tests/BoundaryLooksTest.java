@@ -18,6 +18,7 @@ public final class BoundaryLooksTest {
         whereBounds();
         joinBounds();
         chainBounds();
+        eightBuckets();
         neverLess();
         narrows();
         odds();
@@ -300,6 +301,8 @@ public final class BoundaryLooksTest {
         SafeBuckets z = Check.desk("sb1;tv3;tv2;ra0;ra1;rt1a0n3;rt1a1n3");
         C.due("2 by 2 by 6 by 6", z.join(0, 0, 1, 0, 3), 4);
         C.due("2 by 2 by 2 by 9", z.join(0, 0, 0, 0, 3), 1);
+        SafeBuckets single = Check.desk("sb2;tv2;tv2;ra0n3;ra1n5;rt1a0n2;rt1a1n7");
+        C.due("single values", single.join(0, 0, 1, 0, 3), 6 + 35);
         C.about("both COLUMNS' COUNTS sorted (a LOOK is not needed), the greatest first, multiplied one by one, added up");
         SafeBuckets d = Check.desk("sq1;tv2;tv3;ra0n3;ra1n5;rt1a0n2;rt1a2n7;rt1b1n4");
         C.due("5 by 7, 3 by 2", d.join(0, 0, 1, 0, 2), 41);
@@ -307,6 +310,7 @@ public final class BoundaryLooksTest {
         C.due("a single one", d.join(0, 0, 1, 1, 2), 20);
         C.due("with itself", d.join(0, 0, 0, 0, 2), 34);
         C.due("with none", d.join(0, 0, 0, 1, 2), 0);
+        C.due("of all sixteen", everyPair("tv16", 0).join(0, 0, 0, 1, 2), 16 * 17 * 17);
         C.due("no look", d.count(5), 0);
         C.due("no stop", d.status(4), 0);
     }
@@ -318,6 +322,35 @@ public final class BoundaryLooksTest {
         C.due("20 by 3, not 10 by 9", Check.desk(head + ";rt2a1n9").chain(1), 60);
         C.due("none", Check.desk("t;t;t").chain(1), 0);
         C.due("the most there can be", both999().chain(1), 997002999);
+    }
+
+    /** With as many buckets as there can be, each of a single value, all is known. */
+    private static void eightBuckets() {
+        C.about("By BUCKETS as they are kept (no LOOK)");
+        StringBuilder book = new StringBuilder("sb8q1;t;t;t");
+        for (int v = 0; v < 8; v++) {
+            book.append(";ra").append(v).append('b').append(v).append('n').append(v + 1);
+            book.append(";rt1a").append(v).append('b').append(v);
+        }
+        SafeBuckets x = Check.desk(book.append(";rt2a7n9").toString(), "a>5", "a<1|b>6", "a=7&b=7");
+        bounds(x, 0, 15, 15, 15);
+        bounds(x, 1, 8, 9, 9);
+        bounds(x, 2, 0, 8, 8);
+        C.due("upper", x.join(0, 1, 1, 0, 1), 36);
+        C.due("estimate", x.join(0, 1, 1, 0, 3), 36);
+        C.due("the last value alone", x.join(1, 1, 2, 0, 1), 9);
+        C.due("36 by 9, not 9 by 8", x.chain(1), 72);
+        C.due("the greatest total", x.most(2), 9);
+        C.due("no look", x.count(5), 0);
+        C.due("no stop", x.status(4), 0);
+        SafeBuckets kept = Check.desk("sb1d99;tv2;tv2;ra0n4;rt1a0n2;rt1a1n2", "a=1");
+        kept.add(0, 1, -1, 4);
+        bounds(kept, 0, 0, 8, 4);
+        C.due("as kept: 8 by 2, not 4 by 8", kept.join(0, 0, 1, 0, 1), 16);
+        kept.drop(0, 0, -1, 3);
+        bounds(kept, 0, 0, 5, 2);
+        kept.build(0, 0);
+        bounds(kept, 0, 1, 4, 2);
     }
 
     /** The bounds hold what looking at all finds, as rows come and go. */
@@ -369,6 +402,14 @@ public final class BoundaryLooksTest {
         x.build(0, 0);
         narrowIs(x, 0, NONE, 0);
         narrowIs(x, 1, 1, 10 - 2);
+        // Column 0 is as built with 4 0; column 1 has 4 4 and is kept with 8.
+        SafeBuckets y = Check.desk("sb1d99;tv2;ra0n4;rb0n4", "a=1|b=1");
+        y.add(0, -1, 1, 4);
+        narrowIs(y, 0, 1, 12 - 4);
+        // 0 | 1 .. 3 as kept knows that 0 has none; built it would be 0 1 | 2 3.
+        SafeBuckets worse = Check.desk("sb2d99;tv4", "a=0|b=0");
+        worse.add(0, 1, 1, 5);
+        narrowIs(worse, 0, NONE, 0);
     }
 
     private static void oddsAre(SafeBuckets x, int where, int k, long upper, long lower) {
@@ -457,6 +498,17 @@ public final class BoundaryLooksTest {
         mostAre(x, 2, 1, 3, 4, 13, 1);
         x.add(2, -1, 4, 4);
         mostAre(x, 2, 21, 4, 4, 17, 4);
+        SafeBuckets first = Check.desk("sb1d99;tv4;tv4;tv4;rt1a1n9;rt1b2n9;rt2a1n8");
+        mostAre(first, 1, 0, 9, 9, 26, 1);
+        first.add(0, 3, -1, 20);
+        mostAre(first, 0, 0, 20, 20, 46, 3);
+        first.add(1, -1, 0, 19);
+        mostAre(first, 1, 0, 28, 20, 65, 3);
+        first.add(0, -1, 2, 10);
+        mostAre(first, 1, 0, 28, 20, 75, 3);
+        first.add(2, 2, 2, 1);
+        mostAre(first, 1, 0, 28, 20, 76, 3);
+        C.due("the first bucket of the first column", Check.desk("sb2;tv4;ra0n9;rb3n2").most(2), 9);
         C.about("the most ROWS that are alike (3; 0: none)");
         C.due("none", Check.desk("t").most(3), 0);
         C.due("one", Check.desk("t;r").most(3), 1);

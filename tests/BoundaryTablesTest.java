@@ -333,6 +333,8 @@ public final class BoundaryTablesTest {
         y.drop(0, 1, -1, 4);
         C.due("by counts, not by what is kept", y.bucket(0, 0, 0, 3), 9);
         C.due("0 and 12.5", y.column(0, 0, 2), 1);
+        y.add(0, 1, -1, 9);
+        C.due("40.5 and 12.5", y.column(0, 0, 2), 0);
         C.about("SPARE: DRIFT as told less that of the COLUMN.");
         SafeBuckets z = Check.desk("sd5;tv2");
         C.due("all", z.column(0, 0, 3), 5);

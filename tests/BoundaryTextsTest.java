@@ -114,6 +114,16 @@ public final class BoundaryTextsTest {
         C.due("two more", near.feed(0, 't', 0, 0, 32), 240);
         C.due("what came is read", near.text(0), 1);
         C.due("the whole text of 240 is a book of 8", near.table(0, 0), 8);
+        for (int place = 0; place < 20; place++) {
+            int[] one = new int[5];
+            one[place / 4] = 1 << 8 * (place % 4);
+            C.due("one byte at " + place, filled(239).feed(one[0], one[1], one[2], one[3], one[4]), 240);
+            C.due("one too many at " + place, filled(240).feed(one[0], one[1], one[2], one[3], one[4]), NONE);
+            one[place / 4] <<= 7;
+            C.due("a high bit at " + place, filled(239).feed(one[0], one[1], one[2], one[3], one[4]), 240);
+            one[(place + 5) % 20 / 4] |= 1 << 8 * ((place + 5) % 4);
+            C.due("two at " + place, filled(239).feed(one[0], one[1], one[2], one[3], one[4]), NONE);
+        }
     }
 
     private static void end() {
@@ -402,6 +412,7 @@ public final class BoundaryTextsTest {
         book("t", NONE);
         C.about("with ROWS of a TABLE that is not there");
         book("t;rt1", 5);
+        book("t;rt2", 5);
         book("t;t;rt2", 7);
         book("rt1;t", 5);
         book("rt1;t;t", NONE);
@@ -414,6 +425,8 @@ public final class BoundaryTextsTest {
         book("tv2;ra1b1", NONE);
         book("tv2;ra2", 7);
         book("tv2;rb2", 7);
+        book("tv2;ra15", 8);
+        book("tv2;rb15", 8);
         book("tv16;ra15b15", NONE);
         book("tv15;ra15", 9);
         book("tv15;rb15;s", 11);
@@ -524,7 +537,7 @@ public final class BoundaryTextsTest {
         C.due("its tape stays", x.count(2), 3);
         C.due("four are no matter to a book", Check.tell(x, "t", 0), 1);
         C.about("all that was of another one is gone but WHERES, STATUS, TRACE");
-        SafeBuckets y = Check.desk("sb8d9q2;tv16;ra15b15n9;tv3;rt1a2n5;t", "a=15", "a?|b?");
+        SafeBuckets y = Check.desk("sb8d9q2;tv16;ra15b15n9;rn4;tv3;rt1a2n5;t", "a=15", "a?|b?");
         y.add(0, 0, 0, 5);
         y.move(0, 0, 0, 1, 1);
         y.where(0, 1, 0);
@@ -536,6 +549,8 @@ public final class BoundaryTextsTest {
         C.due("stopped", y.status(4), 3);
         C.due("another book", Check.tell(y, "tv16", 0), 1);
         C.due("rows", y.most(4), 0);
+        C.due("missing", y.table(0, 2), 0);
+        C.due("missing", y.table(0, 3), 0);
         C.due("alike", y.most(3), 0);
         C.due("totals", y.most(2), 0);
         C.due("drift", y.column(0, 0, 1), 0);

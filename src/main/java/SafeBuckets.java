@@ -1258,7 +1258,6 @@ public final class SafeBuckets {
             plain = 0;
             for (int v = 0; v < values; v++) {
                 least[SIDE + v] = errors[v * SIDE + values];
-                second[SIDE + v] = values;
                 tries++;
                 plain++;
             }
