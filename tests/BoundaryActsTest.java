@@ -348,6 +348,14 @@ public final class BoundaryActsTest {
     // ---- promises 16 to 20
 
     private static void addAnswers() {
+        C.about("ADD (a, b: VALUES, or NONE: MISSING): ROWS of the TABLE then.");
+        SafeBuckets m = Check.desk("tv2;tv16");
+        C.due("missing both", m.add(0, NONE, NONE, 3), 3);
+        C.due("missing a", m.add(0, NONE, 1, 2), 5);
+        C.due("missing b", m.add(0, 1, NONE, 1), 6);
+        C.due("of another table", m.add(1, 15, 15, 9), 9);
+        C.due("missing in 0", m.table(0, 2), 5);
+        C.due("missing in 1", m.table(0, 3), 4);
         C.about("NONE: no such TABLE, VALUES (STATUS 0), n (1 .. 99; 1), more than 999 (3).");
         SafeBuckets x = Check.desk("tv2;tv16");
         int no = 0;

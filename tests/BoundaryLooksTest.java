@@ -418,6 +418,14 @@ public final class BoundaryLooksTest {
     }
 
     private static void odds() {
+        C.about("ODDS, k (1 .. 4): that k ROWS drawn (none twice) are all such that a WHERE holds");
+        SafeBuckets d = Check.desk("tv2;ra0n5;ra1n2", "a=0");
+        oddsAre(d, 0, 1, 5, 7);
+        oddsAre(d, 0, 2, 10, 21);
+        oddsAre(d, 0, 3, 2, 7);
+        oddsAre(d, 0, 4, 1, 7);
+        C.due("0", d.odds(0, 0, 0, 0), NONE);
+        C.due("5", d.odds(0, 0, 5, 0), NONE);
         C.about("as a fraction in lowest terms (0 by 1; fewer than k ROWS: none)");
         SafeBuckets x = Check.desk("sq1;tv2;ra0n3;ra1n3", "a=0", "a?", "a<9");
         oddsAre(x, 0, 1, 1, 2);

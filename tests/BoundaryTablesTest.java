@@ -184,6 +184,12 @@ public final class BoundaryTablesTest {
         C.due("by all", Check.desk("tv16").tried(0, 0, 16, 0), 16 * 17 / 2);
         // 9 | 0 0 1: 2/3; 9 0 | 0 1: 40.5 is above that: no third.
         C.due("a worse one stops", Check.desk(withCounts("", 9, 0, 0, 1)).tried(0, 0, 2, 0), 4 + 2 + 2 + 1);
+        C.about("e rising from v and 1 (to VALUES less j and 1)");
+        // 0 0 0 7 and 0 0 0 0 7: no first ERROR stops ahead of the last e, as the rest costs until then.
+        C.due("0 0 7 by 2", Check.desk(withCounts("", 0, 0, 7)).tried(0, 0, 2, 0), 3 + 2 + 1);
+        C.due("0 0 0 7 by 2", Check.desk(withCounts("", 0, 0, 0, 7)).tried(0, 0, 2, 0), 4 + 3 + 2 + 1);
+        C.due("0 0 0 0 7 by 2", Check.desk(withCounts("", 0, 0, 0, 0, 7)).tried(0, 0, 2, 0), 5 + 4 + 3 + 2 + 1);
+        C.due("2 by 2", Check.desk(withCounts("", 1, 2)).tried(0, 0, 2, 0), 2 + 1);
         C.about("PLAIN: how many tries there would be, if it never stopped.");
         C.due("2 by 1", Check.desk("tv2").tried(0, 0, 1, 1), 2);
         C.due("2 by 2", Check.desk("tv2").tried(0, 0, 2, 1), 3);

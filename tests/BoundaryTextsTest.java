@@ -536,6 +536,14 @@ public final class BoundaryTextsTest {
         C.due("a fifth", Check.tell(x, "a=4", 1), NONE);
         C.due("its tape stays", x.count(2), 3);
         C.due("four are no matter to a book", Check.tell(x, "t", 0), 1);
+        C.about("The TAPE (empty then) is the BOOK");
+        SafeBuckets empty = Check.desk("tv16", "a=15");
+        C.due("behind a book and a where", empty.count(2), 0);
+        C.due("nothing of them is left to read", empty.fault(0), 0);
+        C.due("nor as a where", empty.fault(1), 0);
+        C.due("nor to tell", empty.text(0), NONE);
+        C.due("nor to tell", empty.text(1), NONE);
+        C.due("nor to cut", empty.end(1), false);
         C.about("all that was of another one is gone but WHERES, STATUS, TRACE");
         SafeBuckets y = Check.desk("sb8d9q2;tv16;ra15b15n9;rn4;tv3;rt1a2n5;t", "a=15", "a?|b?");
         y.add(0, 0, 0, 5);
