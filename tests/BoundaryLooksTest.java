@@ -338,6 +338,7 @@ public final class BoundaryLooksTest {
         bounds(x, 2, 0, 8, 8);
         C.due("upper", x.join(0, 1, 1, 0, 1), 36);
         C.due("estimate", x.join(0, 1, 1, 0, 3), 36);
+        C.due("estimate of the last value alone", x.join(0, 1, 2, 0, 3), 72);
         C.due("the last value alone", x.join(1, 1, 2, 0, 1), 9);
         C.due("36 by 9, not 9 by 8", x.chain(1), 72);
         C.due("the greatest total", x.most(2), 9);
