@@ -5,6 +5,7 @@ import java.lang.reflect.Method;
 import java.lang.reflect.Modifier;
 import java.nio.file.Files;
 import java.nio.file.Path;
+import java.util.ArrayList;
 import java.util.List;
 import java.util.Set;
 import java.util.TreeSet;
@@ -24,6 +25,7 @@ public final class LanguageTest {
 
     public static void main(String[] args) throws IOException {
         face();
+        signatures(Files.readString(Path.of("../shared/DOC.md")));
         classesInside();
         List<String> lines = Files.readAllLines(Path.of("src/main/java/SafeBuckets.java"));
         words(lines);
@@ -49,6 +51,37 @@ public final class LanguageTest {
         Constructor<?>[] made = SafeBuckets.class.getDeclaredConstructors();
         C.due("one constructor", made.length, 1);
         C.due("a final class", Modifier.isFinal(SafeBuckets.class.getModifiers()), true);
+    }
+
+    /** Every line of the document's face, with its types and its exception, is what the class has. */
+    private static void signatures(String document) {
+        Set<String> told = new TreeSet<>();
+        Pattern line = Pattern.compile("public (\\w+) (\\w+)\\(([^)]*)\\)(?: throws (\\w+))?;");
+        Matcher m = line.matcher(document);
+        while (m.find()) {
+            String types = m.group(3).replaceAll("(\\w+) \\w+", "$1");
+            told.add(m.group(1) + " " + m.group(2) + "(" + types + ")" + (m.group(4) == null ? "" : m.group(4)));
+        }
+        Set<String> has = new TreeSet<>();
+        for (Method method : SafeBuckets.class.getDeclaredMethods()) {
+            if (Modifier.isPublic(method.getModifiers())) {
+                has.add(signatureOf(method));
+            }
+        }
+        C.due("the document's face was read", told.size(), FACE.size());
+        C.due("types and exceptions: told " + told + ", are " + has, has.equals(told), true);
+    }
+
+    private static String signatureOf(Method method) {
+        List<String> types = new ArrayList<>();
+        for (Class<?> type : method.getParameterTypes()) {
+            types.add(type.getSimpleName());
+        }
+        StringBuilder thrown = new StringBuilder();
+        for (Class<?> type : method.getExceptionTypes()) {
+            thrown.append(type.getSimpleName());
+        }
+        return method.getReturnType() + " " + method.getName() + "(" + String.join(", ", types) + ")" + thrown;
     }
 
     private static void classesInside() {
@@ -79,7 +112,9 @@ public final class LanguageTest {
         String code = withoutComments(String.join("\n", lines));
         String[] banned = {"\\bfinally\\b", "\\bsynchronized\\b", "\\bassert\\b", "->", "::", "\\bcatch\\b",
             "\\w+Exact\\b", "\\bSystem\\.(?!arraycopy)", "\\bprotected\\b", "\\bpackage\\b", "\\.hashCode\\b",
-            "\\.toString\\b", "\\binterface\\b", "\\bdouble\\b", "\\bfloat\\b", "\\bstatic\\s*\\{"};
+            "\\.toString\\b", "\\binterface\\b", "\\bdouble\\b", "\\bfloat\\b", "\\bstatic\\s*\\{",
+            // A row's length is no divisor: its lines do not show that it is not 0.
+            "[/%]\\s*\\w+\\.length\\b"};
         for (String word : banned) {
             Matcher m = Pattern.compile(word).matcher(code);
             C.due("the program uses " + word, m.find(), false);

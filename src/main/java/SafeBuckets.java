@@ -1588,8 +1588,9 @@ public final class SafeBuckets {
         static final int MOST_CHANGES = 2;
         static final int LANES = CHANGED + MOST_CHANGES * CHANGE_PARTS;
         static final int PAGE = LANES + COLUMNS * Lane.STATE;
+        static final int ALL_PAGES = MOST * PAGE;
 
-        final int[] pages = new int[MOST * PAGE];
+        final int[] pages = new int[ALL_PAGES];
         int size;
         /** Where the latest page begins. */
         private int latest;
@@ -1600,7 +1601,7 @@ public final class SafeBuckets {
 
         /** Ahead of an act: what is kept of the table (NONE: of none) and the budget are written down. */
         void open(Book book, int table) {
-            latest = (latest + PAGE) % pages.length;
+            latest = (latest + PAGE) % ALL_PAGES;
             size = Math.min(size + 1, MOST);
             pages[latest + TABLE] = table;
             pages[latest + BUDGET] = book.budget;
@@ -1632,7 +1633,7 @@ public final class SafeBuckets {
             if (table != NONE) {
                 restore(book.sheets[table]);
             }
-            latest = (latest + pages.length - PAGE) % pages.length;
+            latest = (latest + ALL_PAGES - PAGE) % ALL_PAGES;
             size--;
         }
 
